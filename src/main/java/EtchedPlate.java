@@ -313,7 +313,7 @@ public final class EtchedPlate {
     }
 
     private static boolean contains(int set, int member) {
-        return (set >> member & 1) != 0;
+        return ((set >> member) & 1) != 0;
     }
 
     private void save() {
@@ -335,9 +335,9 @@ public final class EtchedPlate {
     }
 
     /**
-     * The bits of a float that is 0 or a normal positive number. LANGUAGE.md does
-     * not list Float.floatToIntBits. Doubling, halving and taking 1 away from a
-     * number below 2 are exact, so nothing is rounded here.
+     * The bits of a float that is 0 or a normal positive number, by hand because
+     * LANGUAGE.md's library has no function for it. Doubling, halving and taking
+     * 1 away from a number below 2 are exact, so nothing is rounded here.
      */
     private static int bitsOf(float value) {
         if (value <= 0.0f) {
@@ -502,7 +502,7 @@ public final class EtchedPlate {
         }
     }
 
-    /** The plan for target tones; one object is made anew for each question. */
+    /** The plan for target tones; each question makes it anew in the same rows. */
     private static final class Plan {
         /** The fewest and the most minutes that a line allows; it allows all between. */
         final int[] fewest = new int[MAX_LINES];
@@ -580,7 +580,7 @@ public final class EtchedPlate {
             return totals[dip] - totalBefore(dip);
         }
 
-        /** A line uses the least total from its fewest minutes on: had if that is reached. */
+        /** A line uses the least total that is not below its fewest minutes: it is had once those are reached. */
         int finishedBefore(int dip) {
             int reached = totalBefore(dip);
             int finished = 0;
