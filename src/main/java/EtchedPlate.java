@@ -580,7 +580,7 @@ public final class EtchedPlate {
             return totals[dip] - totalBefore(dip);
         }
 
-        /** A line uses the least total that is not below its fewest minutes: it is had once those are reached. */
+        /** A line's total is the least that is not below its fewest minutes, so these decide. */
         int finishedBefore(int dip) {
             int reached = totalBefore(dip);
             int finished = 0;
