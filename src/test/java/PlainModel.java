@@ -1,5 +1,6 @@
 import java.util.ArrayDeque;
 import java.util.ArrayList;
+import java.util.Arrays;
 import java.util.Collections;
 import java.util.Comparator;
 import java.util.Deque;
@@ -217,8 +218,19 @@ final class PlainModel {
         return before(i, j) ? 1 : 0;
     }
 
+    /** For each print the set of the prints that it may come before. */
+    private int[] followers() {
+        int[] followers = new int[s.prints.size()];
+        for (int i = 0; i < followers.length; i++) {
+            for (int j = 0; j < followers.length; j++) {
+                followers[i] |= before(i, j) ? 1 << j : 0;
+            }
+        }
+        return followers;
+    }
+
     /** The orders of a set: each member that may come before all others, and then the orders of these. */
-    private int ordersOf(int set, int[] known) {
+    private static int ordersOf(int set, int[] followers, int[] known) {
         if (set == 0) {
             return 1;
         }
@@ -226,13 +238,10 @@ final class PlainModel {
             return known[set];
         }
         int sum = 0;
-        for (int first : members(set, 12)) {
-            boolean leads = true;
-            for (int other : members(set & ~(1 << first), 12)) {
-                leads &= before(first, other);
-            }
-            if (leads) {
-                sum += ordersOf(set & ~(1 << first), known);
+        for (int first = 0; first < followers.length; first++) {
+            int others = set & ~(1 << first);
+            if (others != set && (others & ~followers[first]) == 0) {
+                sum += ordersOf(others, followers, known);
             }
         }
         known[set] = sum;
@@ -244,8 +253,8 @@ final class PlainModel {
             return error(-2);
         }
         int[] known = new int[4096];
-        java.util.Arrays.fill(known, -1);
-        return ordersOf(prints, known);
+        Arrays.fill(known, -1);
+        return ordersOf(prints, followers(), known);
     }
 
     int bestState() {

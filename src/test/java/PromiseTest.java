@@ -19,24 +19,11 @@ public final class PromiseTest {
 
     /** A plate whose lines have these depths, with strength 1 and no varnish. */
     private static EtchedPlate withDepths(int... depths) {
-        EtchedPlate x = withLines(depths.length);
-        x.setStrength(1);
-        for (int k = 0; k < depths.length; k++) {
-            x.clean();
-            x.varnish((1 << depths.length) - 1 - (1 << k));
-            x.dip(depths[k]);
-        }
-        x.clean();
+        EtchedPlate x = Plates.withDepths(depths);
         for (int k = 0; k < depths.length; k++) {
             due("depth(" + k + ")", x.depth(k), depths[k]);
         }
         return x;
-    }
-
-    private static void pulls(EtchedPlate x, int count) {
-        for (int k = 0; k < count; k++) {
-            x.pull();
-        }
     }
 
     private static void examples() {
@@ -104,7 +91,7 @@ public final class PromiseTest {
         due("stateOf(0)", x.stateOf(0), 1);
         // counters 0 0 0 0, strength 2, lines 0, varnish 0, prints 0, obstacles 0, dips 0, orders 1, saved 0
         int[] values = {0, 0, 0, 0, 2, 0, 0, 0, 0, 0, 1, 0};
-        due("digest()", new EtchedPlate().digest(), hash(values));
+        due("digest()", new EtchedPlate().digest(), Picture.hash(values));
         EtchedPlate first = withLines(3);
         due("another plate's lines()", new EtchedPlate().lines(), 0);
         due("lines()", first.lines(), 3);
@@ -391,7 +378,7 @@ public final class PromiseTest {
         due("prints()", x.prints(), 0);
         due("pull()", x.pull(), 0);
         due("prints()", x.prints(), 1);
-        pulls(x, 12);
+        Plates.pulled(x, 12);
         due("prints()", x.prints(), 12);
         x.undo();
         due("prints()", x.prints(), 11);
@@ -463,13 +450,13 @@ public final class PromiseTest {
         }
         due("errorCount(-2)", x.errorCount(-2), 3 * wrong.length);
         x = new EtchedPlate();
-        pulls(x, 2);
+        Plates.pulled(x, 2);
         due("without lines", x.mayPrecede(1, 0), 1);
         x = new EtchedPlate();
-        pulls(x, 1);
+        Plates.pulled(x, 1);
         x.draw();
         x.dip(20);
-        pulls(x, 1);
+        Plates.pulled(x, 1);
         due("a later line", x.mayPrecede(0, 1), 1);
         due("a later line", x.mayPrecede(1, 0), 0);
     }
@@ -502,7 +489,7 @@ public final class PromiseTest {
 
         x = withLines(1);
         for (int n = 0; n < 4; n++) {
-            pulls(x, 3);
+            Plates.pulled(x, 3);
             x.dip(10);
         }
         due("four states of three prints", x.orders(4095), 6 * 6 * 6 * 6);
@@ -571,31 +558,8 @@ public final class PromiseTest {
     }
 
     private static void plan(EtchedPlate x, int... minutesAndVarnish) {
-        int count = minutesAndVarnish.length / 2;
-        due("obstacles()", x.obstacles(), 0);
-        due("dips()", x.dips(), count);
-        for (int dip = 0; dip < count; dip++) {
-            due("dipMinutes(" + dip + ")", x.dipMinutes(dip), minutesAndVarnish[2 * dip]);
-            due("dipVarnish(" + dip + ")", x.dipVarnish(dip), minutesAndVarnish[2 * dip + 1]);
-        }
-        int[] beyond = {count, count + 1, 10, 11, MAX};
-        for (int dip : beyond) {
-            due("dipMinutes(" + dip + ")", x.dipMinutes(dip), -1);
-            due("dipVarnish(" + dip + ")", x.dipVarnish(dip), -1);
-        }
-        int errors = x.errorCount(-2);
-        due("dipMinutes(-1)", x.dipMinutes(-1), -2);
-        due("dipVarnish(-1)", x.dipVarnish(-1), -2);
-        due("dipMinutes(MIN)", x.dipMinutes(MIN), -2);
-        due("dipVarnish(MIN)", x.dipVarnish(MIN), -2);
-        due("errorCount(-2)", x.errorCount(-2), errors + 4);
+        Plans.due(CHECK, x, minutesAndVarnish);
         due("errorCount(-3)", x.errorCount(-3), 0);
-    }
-
-    private static void aim(EtchedPlate x, int... tones) {
-        for (int line = 0; line < tones.length; line++) {
-            x.setTarget(line, tones[line]);
-        }
     }
 
     private static void plans() {
@@ -603,23 +567,23 @@ public final class PromiseTest {
         plan(new EtchedPlate());
         EtchedPlate x = withDepths(0, 0, 0);
         plan(x);
-        aim(x, 9, 0, 0);
+        Plates.aimed(x, 9, 0, 0);
         plan(x, 99, 0b110);
-        aim(x, 1, 1, 1);
+        Plates.aimed(x, 1, 1, 1);
         plan(x, 19, 0);
-        aim(x, 3, 1, 2);
+        Plates.aimed(x, 3, 1, 2);
         plan(x, 19, 0, 10, 0b010, 10, 0b110);
 
         x = withDepths(0, 5, 9, 10, 19);
-        aim(x, 1, 1, 1, 1, 1);
+        Plates.aimed(x, 1, 1, 1, 1, 1);
         // 10 to 19, 5 to 14, 1 to 10, and two that allow 0: 10 serves the first three
         plan(x, 10, 0b11000);
         x = withDepths(0, 5, 12, 20);
-        aim(x, 1, 2, 2, 3);
+        Plates.aimed(x, 1, 2, 2, 3);
         // 10 to 19, 15 to 24, 8 to 17, 10 to 19: 17 serves all
         plan(x, 17, 0);
         x = withDepths(0, 8, 17);
-        aim(x, 4, 3, 2);
+        Plates.aimed(x, 4, 3, 2);
         // 40 to 49, 22 to 31, 3 to 12
         plan(x, 12, 0, 19, 0b100, 18, 0b110);
         x.setStrength(5);
@@ -630,21 +594,21 @@ public final class PromiseTest {
         plan(x, 3, 0, 4, 0b100, 5, 0b110);
 
         x = withDepths(0, 8);
-        aim(x, 0, 0);
+        Plates.aimed(x, 0, 0);
         x.varnish(3);
         plan(x);
-        aim(x, 1, 1);
+        Plates.aimed(x, 1, 1);
         // 10 to 19, 2 to 11: varnish that is there already plays no part
         plan(x, 11, 0);
         x = withDepths(3, 9);
-        aim(x, 1, 0);
+        Plates.aimed(x, 1, 0);
         // line 1 allows 0 only, which is its greatest too
         plan(x, 16, 0b10);
         x.setTarget(2, 9);
         plan(x, 16, 0b10);
 
         x = withDepths(0, 0);
-        aim(x, 1, 2);
+        Plates.aimed(x, 1, 2);
         // the line that allows two totals uses the least of them: 10 to 19 and 15 to 24
         x.varnish(1);
         x.dip(5);
@@ -655,24 +619,24 @@ public final class PromiseTest {
         CHECK.part("promise 22: the least total");
         // line 0 allows 20 to 29, line 1 30 to 39, line 2 22 to 31: 29 serves 0 and 2
         EtchedPlate x = withDepths(0, 0, 8);
-        aim(x, 2, 3, 3);
+        Plates.aimed(x, 2, 3, 3);
         plan(x, 29, 0, 10, 0b101);
         // 1 to 4, 5 to 7, 4 to 7: line 2 allows both totals, 4 and 7, and uses 4
         x = withDepths(7, 7, 8);
         x.setStrength(3);
-        aim(x, 1, 2, 2);
+        Plates.aimed(x, 1, 2, 2);
         plan(x, 4, 0, 3, 0b101);
         // the same with the lines the other way round
         x = withDepths(8, 7, 7);
         x.setStrength(3);
-        aim(x, 2, 2, 1);
+        Plates.aimed(x, 2, 2, 1);
         plan(x, 4, 0, 3, 0b101);
     }
 
     private static void impossiblePlans() {
         CHECK.part("promises 20 to 23: no plan");
         EtchedPlate x = withDepths(20, 19, 0);
-        aim(x, 1, 1, 5);
+        Plates.aimed(x, 1, 1, 5);
         due("obstacles()", x.obstacles(), 1);
         due("dips()", x.dips(), -3);
         due("dipMinutes(0)", x.dipMinutes(0), -3);
@@ -690,13 +654,13 @@ public final class PromiseTest {
         x.burnish(0, 1);
         due("obstacles()", x.obstacles(), 0);
         due("dips()", x.dips(), 1);
-        aim(x, 0, 0, 0);
+        Plates.aimed(x, 0, 0, 0);
         due("obstacles()", x.obstacles(), 3);
         x.undo();
         due("obstacles()", x.obstacles(), 3);
         due("obstacles() without lines", new EtchedPlate().obstacles(), 0);
         x = withDepths(20, 30, 29);
-        aim(x, 1, 2, 2);
+        Plates.aimed(x, 1, 2, 2);
         for (int strength = 1; strength <= 5; strength++) {
             x.setStrength(strength);
             due("obstacles() just beyond the tone", x.obstacles(), 3);
@@ -715,7 +679,7 @@ public final class PromiseTest {
             int strength = k % 5 + 1;
             EtchedPlate x = withDepths(depths);
             x.setStrength(strength);
-            aim(x, tones);
+            Plates.aimed(x, tones);
             int count = x.dips();
             CHECK.holds("the fewest totals are " + count, count == fewestTotals(depths, tones, strength));
             int[] minutes = new int[count];
@@ -736,10 +700,6 @@ public final class PromiseTest {
         }
     }
 
-    private static boolean allows(int depth, int tone, int strength, int minutes) {
-        return (depth + strength * minutes) / 10 == tone;
-    }
-
     /** How many different positive totals three lines need at least, found by trying all. */
     private static int fewestTotals(int[] depths, int[] tones, int strength) {
         int best = 3;
@@ -747,9 +707,9 @@ public final class PromiseTest {
             for (int second = 0; second <= first; second++) {
                 boolean serve = true;
                 for (int line = 0; line < 3; line++) {
-                    serve &= allows(depths[line], tones[line], strength, 0)
-                        || allows(depths[line], tones[line], strength, first)
-                        || allows(depths[line], tones[line], strength, second);
+                    serve &= Plans.allows(depths[line], tones[line], strength, 0)
+                        || Plans.allows(depths[line], tones[line], strength, first)
+                        || Plans.allows(depths[line], tones[line], strength, second);
                 }
                 int count = (first > 0 ? 1 : 0) + (second > 0 && second != first ? 1 : 0);
                 if (serve && count < best) {
@@ -882,14 +842,6 @@ public final class PromiseTest {
         due("another object's errorCount(-3)", new EtchedPlate().errorCount(-3), 0);
     }
 
-    private static long hash(int... values) {
-        long h = 2689;
-        for (int v : values) {
-            h = 31 * h + v;
-        }
-        return h;
-    }
-
     private static void digest() {
         CHECK.part("promise 26");
         EtchedPlate x = withLines(2);
@@ -904,19 +856,19 @@ public final class PromiseTest {
         x.depth(2);
         x.depth(2);
         // counters; strength; lines; depth and target of each; varnish; prints; obstacles; dips; orders; saved
-        due("digest()", x.digest(), hash(2, 0, 0, 1, 2, 2, 0, 2, 0, 4, 0, 0, 0, 2, 14, 0, 10, 1, 1, 2));
+        due("digest()", x.digest(), Picture.hash(2, 0, 0, 1, 2, 2, 0, 2, 0, 4, 0, 0, 0, 2, 14, 0, 10, 1, 1, 2));
         x.dip(8);
         x.pull();
         x.varnish(2);
         x.dip(10);
         x.pull();
         due("digest()", x.digest(),
-            hash(2, 0, 0, 1, 2, 2, 36, 2, 16, 4, 2, 2, 1, 1, 1, 2, 3, 1, 1, 1, 5));
+            Picture.hash(2, 0, 0, 1, 2, 2, 36, 2, 16, 4, 2, 2, 1, 1, 1, 2, 3, 1, 1, 1, 5));
         x.dips();
         x.burnish(0, 10);
         x.pull();
         due("digest()", x.digest(),
-            hash(2, 1, 0, 1, 2, 2, 25, 2, 15, 4, 2, 3, 1, 1, 1, 2, 3, 1, 3, 2, 1, 0, 1, 17, 1, 1, 5));
+            Picture.hash(2, 1, 0, 1, 2, 2, 25, 2, 15, 4, 2, 3, 1, 1, 1, 2, 3, 1, 3, 2, 1, 0, 1, 17, 1, 1, 5));
         due("the same digest()", x.digest(), x.digest());
     }
 

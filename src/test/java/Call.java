@@ -1,0 +1,4 @@
+/** One call of the face. */
+interface Call {
+    long on(EtchedPlate x);
+}
