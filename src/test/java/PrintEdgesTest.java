@@ -162,7 +162,7 @@ public final class PrintEdgesTest {
     }
 
     private static void work() {
-        CHECK.part("\"Drawing a line, dipping the plate with a positive number of minutes, and burnishing a line are work\"");
+        CHECK.part("\"Drawing a line, dipping the plate with a positive number of minutes, and burnishing .. are work\"");
         stateAfter("draw()", 2, x -> x.draw());
         stateAfter("dip(1)", 2, x -> x.dip(1));
         stateAfter("dip(99)", 2, x -> x.dip(99));

@@ -207,6 +207,7 @@ public final class RefusalTest {
         on("a new plate", EtchedPlate::new);
         on("lines and nothing saved", () -> Plates.aimed(Plates.withNothingSaved(Plates.withLines(2)), 3, 0));
         on("ten lines without prints", () -> Plates.withLines(10));
+        on("ten lines, a print and no work since", () -> Plates.pulled(Plates.withLines(10), 1));
         on("twelve prints without lines", () -> Plates.pulled(new EtchedPlate(), 12));
         on("a line, a print and work since", () -> {
             EtchedPlate x = Plates.pulled(Plates.withLines(1), 1);

@@ -227,21 +227,22 @@ public final class StateEdgesTest {
         x.draw();
         x.dip(5);
         x.dips();
-        due("digest()", x.digest(), Picture.hash(1, 1, 1, 1, 2, 1, 10, 0, 0, 7, 1, 0, 1, 0, 1, 0, 1, 0, 1, 0, 1, 0, 1, 0,
-            1, 5040, 2));
+        due("digest() with an obstacle", x.digest(), Picture.hash(1, 1, 1, 1, 2, 1, 10, 0, 0, 7,
+            1, 0, 1, 0, 1, 0, 1, 0, 1, 0, 1, 0, 1, 0, 1, 5040, 2));
         CHECK.part("\"if there are no obstacles, the number of dips and, for each dip, ..\"");
         x.setTarget(0, 1);
-        due("digest() without obstacles", x.digest(), Picture.hash(1, 1, 1, 1, 2, 1, 10, 1, 0, 7, 1, 0, 1, 0, 1, 0, 1, 0, 1, 0,
-            1, 0, 1, 0, 0, 0, 5040, 2));
+        due("digest() without obstacles", x.digest(), Picture.hash(1, 1, 1, 1, 2, 1, 10, 1, 0, 7,
+            1, 0, 1, 0, 1, 0, 1, 0, 1, 0, 1, 0, 1, 0, 0, 0, 5040, 2));
         x.setTarget(0, 2);
-        due("digest() with a dip", x.digest(), Picture.hash(1, 1, 1, 1, 2, 1, 10, 2, 0, 7, 1, 0, 1, 0, 1, 0, 1, 0, 1, 0,
-            1, 0, 1, 0, 0, 1, 9, 0, 5040, 2));
+        long oneDip = Picture.hash(1, 1, 1, 1, 2, 1, 10, 2, 0, 7,
+            1, 0, 1, 0, 1, 0, 1, 0, 1, 0, 1, 0, 1, 0, 0, 1, 9, 0, 5040, 2);
+        due("digest() with a dip", x.digest(), oneDip);
         x.setTarget(1, 9);
-        due("digest() with a target of no line", x.digest(), Picture.hash(1, 1, 1, 1, 2, 1, 10, 2, 0, 7, 1, 0, 1, 0, 1, 0, 1, 0,
-            1, 0, 1, 0, 1, 0, 0, 1, 9, 0, 5040, 2));
+        due("digest() with a target of no line", x.digest(), oneDip);
         CHECK.part("digest of twelve equal prints: 12! orders");
         x = Plates.pulled(new EtchedPlate(), 12);
-        due("digest()", x.digest(), Picture.hash(0, 0, 0, 0, 2, 0, 0, 12, 1, 1, 1, 1, 1, 1, 1, 1, 1, 1, 1, 1, 0, 0, 479001600, 5));
+        due("digest()", x.digest(),
+            Picture.hash(0, 0, 0, 0, 2, 0, 0, 12, 1, 1, 1, 1, 1, 1, 1, 1, 1, 1, 1, 1, 0, 0, 479001600, 5));
     }
 
     private static void digestOfMany() {
